@@ -1028,8 +1028,12 @@ public final class PacketToll {
             }
         }
 
+        private World at(int index) {
+            return index >= 0 && index < MOST_UNDONE ? kept[index] : null;
+        }
+
         void keep(World world) {
-            World to = kept[next];
+            World to = at(next);
             if (to == null) {
                 return;
             }
@@ -1041,7 +1045,7 @@ public final class PacketToll {
         /** Gives the world its data before the latest change; the number of changes left, -1 without one. */
         int takeBack(World world) {
             int latest = (next + MOST_UNDONE - 1) % MOST_UNDONE;
-            World from = kept[latest];
+            World from = at(latest);
             if (count <= 0 || from == null) {
                 return -1;
             }
@@ -1329,27 +1333,23 @@ public final class PacketToll {
                 text.moveOn();
                 readSum(nested + 1);
                 takeSign(')');
-            } else if (text.kind == SetupText.WORD) {
-                readVariable();
-            } else if (numberStands(0, 9999)) {
-                emit(text.number);
-                text.moveOn();
-            }
-        }
-
-        private void readVariable() {
-            if (text.isWord("size")) {
-                emit(Price.SIZE);
-            } else if (text.isWord("gate")) {
-                emit(Price.GATE);
-            } else if (text.isWord("spent")) {
-                emit(Price.SPENT);
-            } else if (text.isWord("wait")) {
-                emit(Price.WAIT);
-            } else {
-                fail(SYNTAX_ERROR);
                 return;
             }
+            int one;
+            if (text.isWord("size")) {
+                one = Price.SIZE;
+            } else if (text.isWord("gate")) {
+                one = Price.GATE;
+            } else if (text.isWord("spent")) {
+                one = Price.SPENT;
+            } else if (text.isWord("wait")) {
+                one = Price.WAIT;
+            } else if (numberStands(0, 9999)) {
+                one = text.number;
+            } else {
+                return;
+            }
+            emit(one);
             text.moveOn();
         }
 

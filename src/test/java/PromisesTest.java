@@ -164,6 +164,9 @@ public final class PromisesTest {
         dueLoad("toll;;", PacketToll.SYNTAX_ERROR, 5);
         dueLoad("toll;7;", PacketToll.SYNTAX_ERROR, 5);
         dueLoad("toll;Gate 1 1 1;", PacketToll.SYNTAX_ERROR, 5);
+        dueLoad("toll;late 1 1 1;", PacketToll.SYNTAX_ERROR, 5);
+        dueLoad("toll;gates 1 1 1;", PacketToll.SYNTAX_ERROR, 5);
+        dueLoad("poll;", PacketToll.SYNTAX_ERROR, 0);
         dueLoad("toll;gate 1 1;", PacketToll.SYNTAX_ERROR, 13);
         dueLoad("toll;gate 1 1 1 1;", PacketToll.SYNTAX_ERROR, 16);
         dueLoad("toll;gate 1,1 1;", PacketToll.SYNTAX_ERROR, 11);
@@ -602,6 +605,9 @@ public final class PromisesTest {
         toll.grant(0, 1, 99);
         due("with 5", toll.endsAt(1), 3);
         due("the thrift lets it go no earlier", toll.help(1), -1);
+        PacketToll fast = Checks.tollWith("toll;gate 5 20 9;flow 0 thrift 3;packet 0 0 20;packet 0 0 20;");
+        due("at 4 the bucket is full", fast.endsAt(1), 4);
+        due("at 3, when the thrift is over, 5 are missing", fast.help(1), 5);
     }
 
     private static void promise18Pass() {
@@ -729,6 +735,10 @@ public final class PromisesTest {
         duePrice("9999*9999+9999*9999-9999*99", 9999);
         duePrice("(9999*9999+9999-9999*100)/100", 1);
         duePrice("((((size))))*((2))", 14);
+        duePrice("1+2*(1+2*(1+2*(1+2*(1+2*wait))))", 95);
+        duePrice("9999*9999-9999*100-99", 1);
+        duePrice("(0-9999)*9999+9999*100+101", 1);
+        duePrice("9999*100+9999-9999*100-99", 1);
         duePrice("0-0-(0-9999*9999-9999*9999)/200", 5000);
         PacketToll plain = Checks.tollWith("toll;gate 0 9 1;flow 0;packet 0 0 7;");
         plain.pass(1);
@@ -888,6 +898,13 @@ public final class PromisesTest {
         past.pass(1);
         past.undo();
         due("passages are undone too", past.loadOver(0, 0, 9), 4);
+        Checks.load(past, "toll;gate 0 8 8;gate 0 8 8;flow 1;flow 1;coupon 1 9 9;packet 1 6 9;");
+        past.pass(9);
+        due("passages after the next load", past.loadOver(1, 1, 1), 8);
+        due("none where they were before", past.loadOver(0, 0, 9), 0);
+        past.undo();
+        past.undo();
+        due("the passages before the load", past.loadOver(0, 0, 9), 4);
     }
 
     private static void step(PacketToll toll, int i) {

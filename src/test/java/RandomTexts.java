@@ -76,6 +76,29 @@ final class RandomTexts {
         return oneIn(4) ? spoiled(text.toString()) : text.toString();
     }
 
+    /** A right text of two flows with small numbers and 27 to 29 coupons, most of them of flow 1. */
+    String crowded() {
+        text = new StringBuilder("toll;");
+        tight = true;
+        gates = from(2, 4);
+        flows = 2;
+        for (int i = 0; i < gates; i++) {
+            add("gate", from(0, 2), from(1, 9), from(1, 3));
+        }
+        flow();
+        flow();
+        add("refund", from(50, 100), from(3, 42));
+        int own = from(0, 2);
+        for (int i = from(0, 2); i < 29; i++) {
+            add("coupon", own > 0 ? 0 : 1, from(1, 12), oneIn(12) ? from(1, 20) : 60);
+            own--;
+        }
+        for (int i = from(4, 15); i > 0; i--) {
+            add("packet", oneIn(4) ? 1 : 0, from(0, 11), from(1, 14));
+        }
+        return text.toString();
+    }
+
     private void flow() {
         List<Integer> all = new ArrayList<>();
         for (int g = 0; g < gates; g++) {
