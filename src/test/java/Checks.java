@@ -1,3 +1,8 @@
+import java.io.IOException;
+import java.nio.charset.StandardCharsets;
+import java.nio.file.Files;
+import java.nio.file.Path;
+
 /** What the tests share: they compare answers, count the wrong ones and end with exit code 1 if there were any. */
 final class Checks {
     interface Call {
@@ -6,15 +11,50 @@ final class Checks {
 
     private static int compared = 0;
     private static int wrong = 0;
+    private static int sentences = 0;
+    private static String sentence = "";
+    private static final String DOCUMENT = document();
 
     private Checks() {
+    }
+
+    private static String document() {
+        try {
+            return oneLine(Files.readString(Path.of("../shared/DOC.md"), StandardCharsets.UTF_8));
+        } catch (IOException e) {
+            System.out.println("../shared/DOC.md cannot be read: what the tests quote is not looked up in it");
+            return "";
+        }
+    }
+
+    private static String oneLine(String text) {
+        return text.replaceAll("\\s+", " ");
+    }
+
+    /** The place in the document and the sentence there that the answers from here on hold; a wrong one tells it. */
+    static void says(String where, String words) {
+        sentence = where + ": \"" + words + "\": ";
+        sentences++;
+        compared++;
+        if (!DOCUMENT.isEmpty() && !DOCUMENT.contains(oneLine(words))) {
+            wrong++;
+            System.out.println(sentence + "does not stand in the document");
+        }
     }
 
     static void due(String what, long got, long want) {
         compared++;
         if (got != want) {
             wrong++;
-            System.out.println(what + " answered " + got + ", due is " + want);
+            System.out.println(sentence + what + " answered " + got + ", due is " + want);
+        }
+    }
+
+    static void holds(String what, boolean does) {
+        compared++;
+        if (!does) {
+            wrong++;
+            System.out.println(sentence + what + " does not hold");
         }
     }
 
@@ -31,11 +71,12 @@ final class Checks {
             got = e.getClass().getName();
         }
         wrong++;
-        System.out.println(what + " gave " + got + ", due is " + want.getName());
+        System.out.println(sentence + what + " gave " + got + ", due is " + want.getName());
     }
 
     static void end(String name) {
-        System.out.println(name + ": " + compared + " answers compared, " + wrong + " wrong");
+        String held = sentences > 0 ? " of " + sentences + " sentences" : "";
+        System.out.println(name + ": " + compared + " answers" + held + " compared, " + wrong + " wrong");
         System.exit(wrong == 0 && compared > 0 ? 0 : 1);
     }
 
@@ -48,11 +89,16 @@ final class Checks {
                 | byteAt(text, index + 2) << 8 | byteAt(text, index + 3);
     }
 
+    /** Appends the 20 bytes of the text from this index on, filled up with spaces. */
+    static int append(PacketToll toll, String text, int index) {
+        return toll.append(wordAt(text, index), wordAt(text, index + 4), wordAt(text, index + 8),
+                wordAt(text, index + 12), wordAt(text, index + 16));
+    }
+
     /** Appends the text, filled up with spaces to a multiple of 20. */
     static void put(PacketToll toll, String text) {
         for (int i = 0; i < text.length(); i += 20) {
-            toll.append(wordAt(text, i), wordAt(text, i + 4), wordAt(text, i + 8),
-                    wordAt(text, i + 12), wordAt(text, i + 16));
+            append(toll, text, i);
         }
     }
 
@@ -68,6 +114,31 @@ final class Checks {
             throw new AssertionError("error " + packets + " at " + toll.errorOffset() + " in " + text);
         }
         return toll;
+    }
+
+    /** An object with this setup behind so many ticks. */
+    static PacketToll tollAt(int time, String text) {
+        PacketToll toll = tollWith(text);
+        passTo(toll, time);
+        return toll;
+    }
+
+    static void passTo(PacketToll toll, int time) {
+        for (int now = toll.state(0); now < time; now = toll.state(0)) {
+            toll.pass(Math.min(200, time - now));
+        }
+    }
+
+    static void duePacket(PacketToll toll, int packet, int... want) {
+        for (int what = 0; what < want.length; what++) {
+            due("packet(" + packet + ", " + what + ") at " + toll.state(0), toll.packet(packet, what), want[what]);
+        }
+    }
+
+    static void dueCoupon(PacketToll toll, int coupon, int... want) {
+        for (int what = 0; what < want.length; what++) {
+            due("coupon(" + coupon + ", " + what + ") at " + toll.state(0), toll.coupon(coupon, what), want[what]);
+        }
     }
 
     static String times(int count, String part) {

@@ -397,49 +397,37 @@ public final class PromisesTest {
         refused(toll, "queue(0, -1)", INDEX, () -> toll.queue(0, -1));
     }
 
-    private static void duePacket(PacketToll toll, int packet, int... want) {
-        for (int what = 0; what <= 6; what++) {
-            due("packet(" + packet + ", " + what + ") at " + toll.state(0), toll.packet(packet, what), want[what]);
-        }
-    }
-
     private static void promise11Packet() {
         PacketToll toll = Checks.tollWith("toll;gate 0 9 1;gate 0 9 2;flow 0;flow 1 0 thrift 2;packet 1 1 12;"
                 + "packet 0 0 10;packet 0 4 3;coupon 1 7 99;");
-        duePacket(toll, 0, 1, 1, 12, 0, -1, 0, -1);
+        Checks.duePacket(toll, 0, 1, 1, 12, 0, -1, 0, -1);
         toll.pass(2);
-        duePacket(toll, 0, 1, 1, 12, 1, 1, 0, -1);
+        Checks.duePacket(toll, 0, 1, 1, 12, 1, 1, 0, -1);
         toll.pass(2);
-        duePacket(toll, 0, 1, 1, 12, 2, 0, 3, -1);
-        duePacket(toll, 1, 0, 0, 10, 1, 0, 0, -1);
+        Checks.duePacket(toll, 0, 1, 1, 12, 2, 0, 3, -1);
+        Checks.duePacket(toll, 1, 0, 0, 10, 1, 0, 0, -1);
         toll.pass(3);
         // at gate 0 it joined at 4 and pays 3 at 6
-        duePacket(toll, 0, 1, 1, 12, 3, -1, 6, 6);
-        duePacket(toll, 2, 0, 4, 3, 4, -1, 0, 4);
+        Checks.duePacket(toll, 0, 1, 1, 12, 3, -1, 6, 6);
+        Checks.duePacket(toll, 2, 0, 4, 3, 4, -1, 0, 4);
         refused(toll, "packet(3, 0)", INDEX, () -> toll.packet(3, 0));
         refused(toll, "packet(-1, 7)", INDEX, () -> toll.packet(-1, 7));
         refused(toll, "packet(0, 7)", ARGUMENT, () -> toll.packet(0, 7));
         refused(toll, "packet(0, -1)", ARGUMENT, () -> toll.packet(0, -1));
     }
 
-    private static void dueCoupon(PacketToll toll, int coupon, int... want) {
-        for (int what = 0; what <= 3; what++) {
-            due("coupon(" + coupon + ", " + what + ") at " + toll.state(0), toll.coupon(coupon, what), want[what]);
-        }
-    }
-
     private static void promise12Coupon() {
         PacketToll toll = Checks.tollWith("toll;gate 1 1 1;flow 0;flow 0;coupon 1 9999 9999;coupon 0 1 1;coupon 0 8 2;");
-        dueCoupon(toll, 0, 1, 9999, 9999, 0);
-        dueCoupon(toll, 1, 0, 1, 1, 0);
-        dueCoupon(toll, 2, 0, 8, 2, 0);
+        Checks.dueCoupon(toll, 0, 1, 9999, 9999, 0);
+        Checks.dueCoupon(toll, 1, 0, 1, 1, 0);
+        Checks.dueCoupon(toll, 2, 0, 8, 2, 0);
         toll.pass(1);
         due("coupons at 1", toll.state(4), 3);
         toll.pass(1);
         due("coupons at 2", toll.state(4), 2);
-        dueCoupon(toll, 1, 0, 8, 2, 0);
+        Checks.dueCoupon(toll, 1, 0, 8, 2, 0);
         toll.forward(0, 0);
-        dueCoupon(toll, 0, 0, 9998, 9999, 1);
+        Checks.dueCoupon(toll, 0, 0, 9998, 9999, 1);
         refused(toll, "coupon(2, 0)", INDEX, () -> toll.coupon(2, 0));
         refused(toll, "coupon(-1, 4)", INDEX, () -> toll.coupon(-1, 4));
         refused(toll, "coupon(0, 4)", ARGUMENT, () -> toll.coupon(0, 4));
@@ -664,9 +652,9 @@ public final class PromisesTest {
         // one of the three finds room at gate 1; of 8 and 2 half comes back: 4 and 1
         due("two are dropped", toll.state(6), 2);
         due("coupons: 5 of the first, then two refunds", toll.state(4), 3);
-        dueCoupon(toll, 0, 1, 5, 99, 0);
-        dueCoupon(toll, 1, 1, 4, 7, 0);
-        dueCoupon(toll, 2, 1, 1, 7, 0);
+        Checks.dueCoupon(toll, 0, 1, 5, 99, 0);
+        Checks.dueCoupon(toll, 1, 1, 4, 7, 0);
+        Checks.dueCoupon(toll, 2, 1, 1, 7, 0);
         toll.pass(5);
         due("at 7 they are there", toll.state(4), 3);
         toll.pass(1);
@@ -674,18 +662,18 @@ public final class PromisesTest {
         due("expired", toll.state(7), 2);
         PacketToll usual = Checks.tollWith(text);
         usual.pass(2);
-        dueCoupon(usual, 1, 1, 4, 11, 0);
+        Checks.dueCoupon(usual, 1, 1, 4, 11, 0);
         PacketToll none = Checks.tollWith(text + "refund 49 6;");
         none.pass(2);
         due("49 percent of 8 is 3, of 2 is 0", none.state(4), 2);
-        dueCoupon(none, 1, 1, 3, 7, 0);
+        Checks.dueCoupon(none, 1, 1, 3, 7, 0);
         PacketToll full = Checks.tollWith(text);
         for (int i = 0; i < 28; i++) {
             full.grant(0, 1, 99);
         }
         full.pass(2);
         due("only the first finds room among 30 coupons", full.state(4), 30);
-        dueCoupon(full, 29, 1, 4, 11, 0);
+        Checks.dueCoupon(full, 29, 1, 4, 11, 0);
     }
 
     private static void promise18Spend() {
@@ -694,52 +682,44 @@ public final class PromisesTest {
         toll.pass(1);
         // 3 and 2 that end at 20, in their order, then 2 of the 5
         due("two are removed", toll.state(4), 3);
-        dueCoupon(toll, 0, 0, 3, 30, 0);
-        dueCoupon(toll, 1, 1, 9, 10, 0);
-        dueCoupon(toll, 2, 0, 9, 40, 0);
+        Checks.dueCoupon(toll, 0, 0, 3, 30, 0);
+        Checks.dueCoupon(toll, 1, 1, 9, 10, 0);
+        Checks.dueCoupon(toll, 2, 0, 9, 40, 0);
         PacketToll tie = Checks.tollWith("toll;gate 0 1 9;flow 0;packet 0 0 5;coupon 0 5 20;coupon 0 6 20;");
         tie.pass(1);
-        dueCoupon(tie, 0, 0, 1, 20, 0);
-        dueCoupon(tie, 1, 0, 6, 20, 0);
-    }
-
-    /** The bill of one packet of size 7 that passes gate 1 at 2, waits 2 ticks there and spends 3. */
-    private static void duePrice(String price, int bill) {
-        PacketToll toll = Checks.tollWith("toll;gate 0 9 1;gate 0 4 1;flow 1 thrift 2;packet 0 0 7;coupon 0 9 9;price "
-                + price + ";");
-        toll.pass(3);
-        due("bill for " + price, toll.flow(0, 2), bill);
+        Checks.dueCoupon(tie, 0, 0, 1, 20, 0);
+        Checks.dueCoupon(tie, 1, 0, 6, 20, 0);
     }
 
     private static void promise18Price() {
-        duePrice("size", 7);
-        duePrice("gate", 1);
-        duePrice("spent", 3);
-        duePrice("wait", 2);
-        duePrice("size*10+wait", 72);
-        duePrice("100-size-spent", 90);
-        duePrice("100-(size-spent)", 96);
-        duePrice("90/size/wait", 6);
-        duePrice("90/(size/wait)", 30);
-        duePrice("2+3*4", 14);
-        duePrice("9-2*3-1", 2);
-        duePrice("7/(gate-1)", 0);
-        duePrice("5+7/0*3", 5);
-        duePrice("0-7", 0);
-        duePrice("9999+1", 9999);
-        duePrice("10+(0-7)/2", 7);
-        duePrice("9999*9999/1000", 1000);
-        duePrice("9999*9999-9999*9999+5", 5);
-        duePrice("9999*100+9999-(9999*100-9999)", 9999);
-        duePrice("(0-9999)*9999*9999/(0-1000)", 1000);
-        duePrice("9999*9999+9999*9999-9999*99", 9999);
-        duePrice("(9999*9999+9999-9999*100)/100", 1);
-        duePrice("((((size))))*((2))", 14);
-        duePrice("1+2*(1+2*(1+2*(1+2*(1+2*wait))))", 95);
-        duePrice("9999*9999-9999*100-99", 1);
-        duePrice("(0-9999)*9999+9999*100+101", 1);
-        duePrice("9999*100+9999-9999*100-99", 1);
-        duePrice("0-0-(0-9999*9999-9999*9999)/200", 5000);
+        Worlds.duePrice("size", 7);
+        Worlds.duePrice("gate", 1);
+        Worlds.duePrice("spent", 3);
+        Worlds.duePrice("wait", 2);
+        Worlds.duePrice("size*10+wait", 72);
+        Worlds.duePrice("100-size-spent", 90);
+        Worlds.duePrice("100-(size-spent)", 96);
+        Worlds.duePrice("90/size/wait", 6);
+        Worlds.duePrice("90/(size/wait)", 30);
+        Worlds.duePrice("2+3*4", 14);
+        Worlds.duePrice("9-2*3-1", 2);
+        Worlds.duePrice("7/(gate-1)", 0);
+        Worlds.duePrice("5+7/0*3", 5);
+        Worlds.duePrice("0-7", 0);
+        Worlds.duePrice("9999+1", 9999);
+        Worlds.duePrice("10+(0-7)/2", 7);
+        Worlds.duePrice("9999*9999/1000", 1000);
+        Worlds.duePrice("9999*9999-9999*9999+5", 5);
+        Worlds.duePrice("9999*100+9999-(9999*100-9999)", 9999);
+        Worlds.duePrice("(0-9999)*9999*9999/(0-1000)", 1000);
+        Worlds.duePrice("9999*9999+9999*9999-9999*99", 9999);
+        Worlds.duePrice("(9999*9999+9999-9999*100)/100", 1);
+        Worlds.duePrice("((((size))))*((2))", 14);
+        Worlds.duePrice("1+2*(1+2*(1+2*(1+2*(1+2*wait))))", 95);
+        Worlds.duePrice("9999*9999-9999*100-99", 1);
+        Worlds.duePrice("(0-9999)*9999+9999*100+101", 1);
+        Worlds.duePrice("9999*100+9999-9999*100-99", 1);
+        Worlds.duePrice("0-0-(0-9999*9999-9999*9999)/200", 5000);
         PacketToll plain = Checks.tollWith("toll;gate 0 9 1;flow 0;packet 0 0 7;");
         plain.pass(1);
         due("bill without a price", plain.flow(0, 2), 7);
@@ -769,18 +749,18 @@ public final class PromisesTest {
         PacketToll toll = Checks.tollWith("toll;gate 1 1 1;flow 0;flow 0;flow 0;coupon 0 10 9;coupon 0 2 9;coupon 1 3 9;"
                 + "fee 2;");
         due("to its own flow", toll.forward(0, 0), -1);
-        dueCoupon(toll, 0, 0, 10, 9, 0);
+        Checks.dueCoupon(toll, 0, 0, 10, 9, 0);
         due("forward", toll.forward(0, 1), 8);
-        dueCoupon(toll, 0, 1, 8, 9, 1);
+        Checks.dueCoupon(toll, 0, 1, 8, 9, 1);
         due("not greater than the fee", toll.forward(1, 1), -1);
         due("greater than the fee", toll.forward(2, 0), 1);
         due("back", toll.forward(0, 0), 6);
-        dueCoupon(toll, 0, 0, 6, 9, 2);
+        Checks.dueCoupon(toll, 0, 0, 6, 9, 2);
         due("a third time", toll.forward(0, 2), -1);
-        dueCoupon(toll, 0, 0, 6, 9, 2);
+        Checks.dueCoupon(toll, 0, 0, 6, 9, 2);
         due("refusals are changes", toll.undo(), 6);
         due("the one before", toll.undo(), 5);
-        dueCoupon(toll, 0, 1, 8, 9, 1);
+        Checks.dueCoupon(toll, 0, 1, 8, 9, 1);
         refused(toll, "forward(3, 0)", INDEX, () -> toll.forward(3, 0));
         refused(toll, "forward(-1, 0)", INDEX, () -> toll.forward(-1, 0));
         refused(toll, "forward(0, 3)", INDEX, () -> toll.forward(0, 3));
@@ -795,9 +775,9 @@ public final class PromisesTest {
         PacketToll toll = Checks.tollWith("toll;gate 1 1 1;flow 0;flow 0;coupon 0 10 99;");
         toll.pass(7);
         due("grant", toll.grant(1, 9999, 9999), 1);
-        dueCoupon(toll, 1, 1, 9999, 10006, 0);
+        Checks.dueCoupon(toll, 1, 1, 9999, 10006, 0);
         due("grant", toll.grant(0, 1, 1), 2);
-        dueCoupon(toll, 2, 0, 1, 8, 0);
+        Checks.dueCoupon(toll, 2, 0, 1, 8, 0);
         toll.pass(1);
         due("it is there at 8", toll.state(4), 3);
         toll.pass(1);
@@ -822,9 +802,9 @@ public final class PromisesTest {
         PacketToll toll = Checks.tollWith("toll;gate 1 9 20;flow 0;flow 0;packet 0 0 5;");
         toll.pass(3);
         due("send", toll.send(1, 9), 1);
-        duePacket(toll, 1, 1, 3, 9, 0, -1, 0, -1);
+        Checks.duePacket(toll, 1, 1, 3, 9, 0, -1, 0, -1);
         due("it passes at 3", toll.pass(1), 1);
-        duePacket(toll, 1, 1, 3, 9, 3, -1, 0, 3);
+        Checks.duePacket(toll, 1, 1, 3, 9, 3, -1, 0, 3);
         refused(toll, "send(2, 0)", INDEX, () -> toll.send(2, 0));
         refused(toll, "send(-1, 1)", INDEX, () -> toll.send(-1, 1));
         refused(toll, "send(0, 0)", ARGUMENT, () -> toll.send(0, 0));

@@ -49,7 +49,8 @@ public final class RandomRunsTest {
     }
 
     private void compare(String what, Call got, Call due) {
-        if (!same) {
+        // nothing is promised of an object behind its 512th call
+        if (!same || done.size() >= 512) {
             return;
         }
         String a = answer(got);
@@ -60,7 +61,7 @@ public final class RandomRunsTest {
 
     private void run() {
         load();
-        for (int i = 0; i < 200 && same && done.size() < 500; i++) {
+        for (int i = 0; i < 200 && same && done.size() < 512; i++) {
             change();
             query();
             compare("checksum()", toll::checksum, model::checksum);
