@@ -20,6 +20,7 @@ public final class AnswerBoundariesTest {
         curveFromOneTickOn();
         curveIsAboveEachLoad();
         endsAtWithinFiveHundredTicks();
+        endsAtOfWhatWaits();
         endsAtOfWhatHasEnded();
         endsAtBeyondTheLastTime();
         billAfterNoneToFiveHundredTicks();
@@ -28,6 +29,7 @@ public final class AnswerBoundariesTest {
         helpThatIsEarlier();
         helpWhereItNeverEnds();
         helpIsSpentLast();
+        helpIsSpentBehindOneWithItsEnd();
         helpToBeDroppedEarlier();
         helpWithThirtyCoupons();
         checksumOfNothing();
@@ -167,6 +169,7 @@ public final class AnswerBoundariesTest {
     }
 
     private static void loadWithoutPassages() {
+        says("Promise 13", "`ticks`: 1 to 999");
         says("Promise 13", "Returns the load of the flow at the gate over this number of ticks; 0 without kept passages of it "
                 + "there.");
         PacketToll toll = Checks.tollWith("toll;gate 9 99 9;gate 9 99 9;flow 0;flow 1;packet 0 3 7;packet 1 3 8;");
@@ -184,6 +187,7 @@ public final class AnswerBoundariesTest {
     }
 
     private static void curveFromOneTickOn() {
+        says("Promise 14", "`ticks`: 1 to 999");
         says("Promise 14", "Returns the depth of the gate + its rate * ticks");
         PacketToll toll = Checks.tollWith("toll;gate 0 1 1;gate 99 999 20;gate 0 999 1;gate 99 1 1;gate 5 7 1;");
         int[][] rows = {{1, 1, 1, 1}, {1098, 1197, 99801, 99900}, {999, 999, 999, 999}, {100, 199, 98803, 98902},
@@ -234,6 +238,25 @@ public final class AnswerBoundariesTest {
         due("its thrift is over too late", thrift.endsAt(2), -1);
     }
 
+    private static void endsAtOfWhatWaits() {
+        says("Promise 15", "Predicts a packet, if nothing but ticks pass");
+        PacketToll thrift = Checks.tollAt(4, "toll;gate 0 4 9;flow 0 thrift 5;packet 0 2 5;coupon 0 9 99;");
+        due("5 ticks behind 2", thrift.endsAt(0), 7);
+        PacketToll queue = Checks.tollAt(1, "toll;gate 1 9 9;flow 0;packet 0 0 9;packet 0 0 2;packet 0 0 3;packet 0 0 4;"
+                + "packet 0 5 1;");
+        int[] want = {0, 2, 5, 9, 10};
+        for (int packet = 4; packet >= 0; packet--) {
+            due("endsAt(" + packet + ")", queue.endsAt(packet), want[packet]);
+        }
+        due("the bill behind all of them", queue.billAfter(0, 10), 19);
+        for (int packet = 0; packet < 5; packet++) {
+            Checks.passTo(queue, want[packet]);
+            due("not before", queue.packet(packet, 6), packet == 0 ? 0 : -1);
+            queue.pass(1);
+            due("as predicted", queue.packet(packet, 6), want[packet]);
+        }
+    }
+
     private static void endsAtOfWhatHasEnded() {
         says("Promise 15", "Returns the time at which it is delivered or dropped, or was so");
         PacketToll toll = Checks.tollAt(9999, "toll;gate 1 9 1;flow 0;packet 0 0 9;packet 0 0 9;packet 0 700 9;");
@@ -259,6 +282,7 @@ public final class AnswerBoundariesTest {
     }
 
     private static void billAfterNoneToFiveHundredTicks() {
+        says("Promise 16", "`ticks`: 0 to 500");
         says("Promise 16", "Returns its bill after so many ticks.");
         PacketToll toll = Checks.tollAt(1, "toll;gate 9 9 9;gate 9 9 9;flow 0 1;flow 1;packet 0 0 2;packet 0 500 3;packet 1 500 4;"
                 + "price size*10;");
@@ -349,6 +373,18 @@ public final class AnswerBoundariesTest {
         late.grant(0, 5, 9998);
         due("nothing is missing", late.help(0), -1);
         due("beyond 9999", late.help(1), 7);
+    }
+
+    private static void helpIsSpentBehindOneWithItsEnd() {
+        says("Coupons", "(of several the one with the smallest index)");
+        // packet 1 spends the coupon that was granted, so that its refund finds a place beside the one that helps
+        PacketToll toll = Checks.tollWith("toll;gate0 900 9;gate0 1 1;flow0 1;flow0;packet0 0 900;packet0 1 30;packet0 3 70;"
+                + "refund100 10;" + "coupon1 1 99;".repeat(28));
+        due("granted", toll.grant(0, 30, 9999), 28);
+        due("30 of a refund are not enough", toll.endsAt(2), -1);
+        due("40 of 70", toll.help(2), 40);
+        toll.grant(0, 40, 9999);
+        due("dropped at gate 1 with them", toll.endsAt(2), 4);
     }
 
     private static void helpToBeDroppedEarlier() {

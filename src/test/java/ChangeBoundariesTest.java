@@ -32,6 +32,9 @@ public final class ChangeBoundariesTest {
         undoneChangesDoNotCount();
         finalStaysFinal();
         nothingToUndo();
+        newThingsWhereUndoneOnesWere();
+        queueBehindUndo();
+        passagesBehindUndo();
         undoLeavesBufferAndOffset();
         undoOfTheFirstLoad();
         Checks.end("ChangeBoundariesTest");
@@ -122,6 +125,7 @@ public final class ChangeBoundariesTest {
     }
 
     private static void grantFromOneToTheMost() {
+        says("Promise 20", "`value`: 1 to 9999");
         says("Promise 20", "1 to 9999: it ends at the time + this number");
         PacketToll toll = Checks.tollWith(Worlds.ONE_FLOW);
         due("the smallest", toll.grant(0, 1, 1), 0);
@@ -163,6 +167,7 @@ public final class ChangeBoundariesTest {
     }
 
     private static void sendFromOneToTheMost() {
+        says("Promise 21", "`size`: 1 to 999");
         says("Promise 21", "Sends a packet, behind the others; its start is the time (it arrives in the next tick that passes).");
         PacketToll toll = Checks.tollWith("toll;gate 0 999 9;flow 0;flow 0;packet 0 5 7;");
         due("the smallest", toll.send(1, 1), 1);
@@ -198,6 +203,7 @@ public final class ChangeBoundariesTest {
     }
 
     private static void setThriftFromNoneToTheMost() {
+        says("Promise 22", "`thrift`: 0 to 99");
         says("Promise 22", "Returns the previous one.");
         PacketToll toll = Checks.tollWith("toll;gate 0 1 9;flow 0;flow 0 thrift 98;");
         due("of no statement", toll.setThrift(0, 99), 0);
@@ -377,6 +383,97 @@ public final class ChangeBoundariesTest {
         toll.pass(3);
         due("a later change can be undone", toll.undo(), 0);
         Answers.dueSame("behind that", Answers.of(toll), Answers.of(other));
+    }
+
+    private static void newThingsWhereUndoneOnesWere() {
+        says("Coupons", "the number of times that it was forwarded (0 at first).");
+        PacketToll toll = Checks.tollWith("toll;gate 0 4 9;gate 0 9 9;flow 0 1;flow 0;fee 0;coupon 0 9 1;");
+        toll.forward(0, 1);
+        toll.forward(0, 0);
+        toll.pass(2);
+        due("that one has expired", toll.state(4), 0);
+        due("the next one", toll.grant(0, 9, 9), 0);
+        Checks.dueCoupon(toll, 0, 0, 9, 11, 0);
+        toll.forward(0, 1);
+        toll.undo();
+        toll.undo();
+        due("another one behind undo", toll.grant(1, 8, 8), 0);
+        Checks.dueCoupon(toll, 0, 1, 8, 10, 0);
+        says("Promise 21", "Sends a packet, behind the others");
+        toll.grant(0, 1, 99);
+        toll.send(0, 5);
+        toll.pass(3);
+        Checks.duePacket(toll, 0, 0, 2, 5, 3, -1, 1, 3);
+        toll.undo();
+        toll.undo();
+        due("another one behind undo", toll.send(1, 3), 0);
+        Checks.duePacket(toll, 0, 1, 2, 3, 0, -1, 0, -1);
+        toll.undo();
+        due("a third one", toll.send(0, 4), 0);
+        toll.pass(1);
+        Checks.duePacket(toll, 0, 0, 2, 4, 2, 1, 0, -1);
+    }
+
+    private static void queueBehindUndo() {
+        says("A tick", "A packet that arrives joins the queue of its flow at the gate, behind the others");
+        PacketToll toll = Checks.tollAt(1, "toll;gate 1 9 9;flow 0;packet 0 0 9;packet 0 0 3;packet 0 0 3;packet 0 1 3;");
+        toll.send(0, 2);
+        toll.pass(1);
+        due("four wait", toll.queue(0, 0), 4);
+        toll.undo();
+        toll.undo();
+        due("two wait", toll.queue(0, 0), 2);
+        toll.send(0, 1);
+        toll.pass(1);
+        due("four wait again", toll.queue(0, 0), 4);
+        int[] want = {0, 3, 6, 9, 10};
+        for (int packet = 0; packet < 5; packet++) {
+            due("endsAt(" + packet + ")", toll.endsAt(packet), want[packet]);
+        }
+        toll.pass(9);
+        for (int packet = 0; packet < 5; packet++) {
+            due("it ended at", toll.packet(packet, 6), want[packet]);
+        }
+    }
+
+    /** Behind more than 40 passages, some of them paid with coupons. */
+    private static PacketToll manyPassages() {
+        PacketToll toll = Checks.tollAt(2, "toll;gate0 60 20;gate9 90 20;flow0 1;flow1;coupon0 50 99;"
+                + "packet0 0 5;packet0 0 3;".repeat(9) + "packet0 1 5;".repeat(4) + "packet1 1 2;".repeat(4));
+        toll.pass(1);
+        return toll;
+    }
+
+    private static void passagesBehindUndo() {
+        says("Curves", "The latest 40 passages (of all flows at all gates) are kept");
+        PacketToll tried = manyPassages();
+        for (int i = 0; i < 3; i++) {
+            tried.send(1, 9);
+            tried.pass(2);
+        }
+        for (int i = 0; i < 6; i++) {
+            tried.undo();
+        }
+        PacketToll other = manyPassages();
+        dueSameLoads(tried, other);
+        for (int i = 0; i < 8; i++) {
+            tried.send(1, i + 1);
+            other.send(1, i + 1);
+            tried.pass(1);
+            other.pass(1);
+            dueSameLoads(tried, other);
+        }
+    }
+
+    private static void dueSameLoads(PacketToll tried, PacketToll other) {
+        for (int gate = 0; gate < 2; gate++) {
+            for (int flow = 0; flow < 2; flow++) {
+                for (int ticks = 1; ticks <= 3; ticks++) {
+                    due("loadOver(" + gate + ", " + flow + ", " + ticks + ") at " + tried.state(0),
+                            tried.loadOver(gate, flow, ticks), other.loadOver(gate, flow, ticks));
+                }
+            }
+        }
     }
 
     private static void undoLeavesBufferAndOffset() {

@@ -48,6 +48,8 @@ public final class TextBoundariesTest {
         factorNumber();
         nestedParentheses();
         statementsThatOccurOnce();
+        secondStatementOfAKind();
+        errorCodes();
         endOfTheTextTooEarly();
         wrongTokens();
         numberOutsideItsRange();
@@ -191,10 +193,15 @@ public final class TextBoundariesTest {
 
     private static void loadReplacesAllData() {
         says("Promise 3", "replaces all data by it; the time is 0.");
-        String past = "toll;gate 9 9 9;gate 3 4 5;flow 0 1 thrift 7;flow 1;packet 0 0 5;packet 0 1 20;packet 1 0 9;"
-                + "packet 1 3 999;coupon 1 30 2;coupon 0 40 99;fee 9;refund 7 8;price 5*size;";
         String next = "toll;gate 0 9 1;gate 0 1 1;flow 0 1;packet 0 0 9;packet 0 1 8;coupon 0 8 9;";
-        PacketToll tried = Checks.tollAt(9, past);
+        dueReplaced(next, 4);
+        dueReplaced(next + "fee 3;refund 25 3;price 3-wait+size;", 2);
+    }
+
+    /** Behind much else this text makes an object what it makes a new one; its one refund has this value. */
+    private static void dueReplaced(String next, int refund) {
+        PacketToll tried = Checks.tollAt(9, "toll;gate 9 9 9;gate 3 4 5;flow 0 1 thrift 7;flow 1;packet 0 0 5;packet 0 1 20;"
+                + "packet 1 0 9;packet 1 3 999;coupon 1 30 2;coupon 0 40 99;fee 9;refund 7 8;price 5*size;");
         due("there were passages", tried.loadOver(0, 0, 9), 14);
         due("load", Checks.load(tried, next), 2);
         due("the time", tried.state(0), 0);
@@ -202,7 +209,7 @@ public final class TextBoundariesTest {
         Answers.dueSame("as a new object answers", Answers.of(tried), Answers.of(other));
         Checks.passTo(tried, 4);
         Checks.passTo(other, 4);
-        due("the refund is as without statement", tried.coupon(0, 1), 4);
+        due("the refund", tried.coupon(0, 1), refund);
         Answers.dueSame("as a new object answers at 4", Answers.of(tried), Answers.of(other));
     }
 
@@ -423,6 +430,9 @@ public final class TextBoundariesTest {
     }
 
     private static void gateNumbers() {
+        says("Setup text", "The numbers of gate are its rate, its depth and its room");
+        dueSyntaxError("toll;gate 1 2;", 13);
+        dueSyntaxError("toll;gate 1 2 3 4;", 16);
         says("Gates, flows and packets", "A gate has a rate (0 to 99), a depth (1 to 999) and room (1 to 20).");
         dueRange("toll;gate ", 0, 99, " 5 5;", 0);
         dueRange("toll;gate 5 ", 1, 999, " 5;", 0);
@@ -507,6 +517,7 @@ public final class TextBoundariesTest {
     private static void refundWithoutStatement() {
         says("Setup text", "without it they are 50 and 10.");
         Checks.dueCoupon(Checks.tollAt(3, Worlds.dropped(9)), 0, 0, 4, 12, 0);
+        Checks.dueCoupon(Checks.tollAt(3, Worlds.dropped(200)), 0, 0, 100, 12, 0);
         due("nothing of 1", Checks.tollAt(3, Worlds.dropped(1)).state(4), 0);
         Checks.dueCoupon(Checks.tollAt(3, Worlds.dropped(9) + "refund 100 999;"), 0, 0, 9, 1001, 0);
     }
@@ -539,6 +550,9 @@ public final class TextBoundariesTest {
         dueRight("toll;price ((((1))));");
         dueRight("toll;price ((((1))))*((((2))))-(((3)));");
         dueRight("toll;price (1+(2+(3+(4))+(5+(6)))+(7));");
+        // a sum and a term are open in each of the five
+        Worlds.duePrice("1+1*(1+1*(1+1*(1+1*(1+1*size))))", 12);
+        Worlds.duePrice("90-2*(8-1*(7-1*(6-1*(5-1*size))))", 72);
         dueLoad("toll;price (((((1)))));", DEEP, 15);
         dueLoad("toll;price ((((1))+((2+(3)))));", DEEP, 23);
     }
@@ -549,10 +563,37 @@ public final class TextBoundariesTest {
         dueSyntaxError("toll;fee 1;refund 1 1;price 1;  fee 1;", 32);
         dueSyntaxError("toll;fee 1;refund 1 1;price 1;  refund 1 1;", 32);
         dueSyntaxError("toll;fee 1;refund 1 1;price 1;  price 1;", 32);
-        dueSyntaxError("toll;fee 1;fee 1000;", 11);
-        dueSyntaxError("toll;price 1;price (((((1;", 13);
         PacketToll toll = dueRight("toll;fee 1;refund 1 1;price 1;");
         due("each once more in the next text", Checks.load(toll, "toll;fee 2;refund 2 2;price 2;"), 0);
+        Checks.load(toll, "toll;fee 2;refund 2 2;price 2;!");
+        due("and behind a text with an error", Checks.load(toll, "toll;fee 2;refund 2 2;price 2;"), 0);
+    }
+
+    private static void secondStatementOfAKind() {
+        says("SYNTAX_ERROR", "a second statement of a kind that may occur once, at its first letter.");
+        for (String one : new String[] {"fee 1;", "refund 1 1;", "price 1;"}) {
+            String first = "toll;" + one;
+            String word = one.replaceAll("[^a-z].*", "");
+            dueSyntaxError(first + one, first.length());
+            dueSyntaxError(first + "   " + one, first.length() + 3);
+            dueSyntaxError(first + GATE + one, first.length() + GATE.length());
+            dueSyntaxError(first + word, first.length());
+            dueSyntaxError(first + word + " 100000;", first.length());
+            dueSyntaxError(first + word + " (((((", first.length());
+        }
+    }
+
+    private static void errorCodes() {
+        says("SYNTAX_ERROR = -2", "Error code of load: the text does not follow the grammar.");
+        dueLoad("toll;fee;", -2, 8);
+        says("OUT_OF_RANGE = -3", "Error code of load: a number is not allowed.");
+        dueLoad("toll;fee 100;", -3, 9);
+        says("REPEATED = -4", "Error code of load: a gate is told twice for a route.");
+        dueLoad(SIX_GATES + "flow 1 1;", -4, SIX_GATES.length() + 7);
+        says("TOO_MANY = -5", "Error code of load: too many gates, flows, packets or coupons.");
+        dueLoad(SIX_GATES + GATE, -5, SIX_GATES.length());
+        says("TOO_DEEP = -6", "Error code of load: parentheses are nested too deeply.");
+        dueLoad("toll;price (((((1)))));", -6, 15);
     }
 
     private static boolean isLetter(char sign) {
@@ -588,6 +629,11 @@ public final class TextBoundariesTest {
         dueSyntaxError("toll;gate 1 1 one;", 14);
         dueSyntaxError("toll;gate 1-1 1;", 11);
         dueSyntaxError("toll;12;", 5);
+        dueSyntaxError("soll;", 0);
+        dueSyntaxError("toll;late 1 1 1;", 5);
+        dueSyntaxError("toll;gave 1 1 1;", 5);
+        dueSyntaxError("toll;price sized;", 11);
+        dueSyntaxError("toll;price bait;", 11);
         dueSyntaxError("toll;thrift 1;", 5);
         dueSyntaxError("toll;size;", 5);
         dueSyntaxError("toll;price;", 10);

@@ -18,30 +18,52 @@ public final class ThrowBoundariesTest {
     private static final String USED = "toll;gate 3 10 2;gate 4 7 1;flow 0 1 thrift 2;flow 1;flow 0;packet 0 0 8;packet 0 1 9;"
             + "packet 1 2 20;packet 0 9 3;coupon 0 5 30;coupon 1 40 20;fee 2;refund 40 9;";
 
+    private interface OneIndex {
+        long call(PacketToll toll, int index);
+    }
+
+    private interface TwoIndexes {
+        long call(PacketToll toll, int one, int two);
+    }
+
     public static void main(String[] args) {
         wrongLength();
         wrongWhatOfState();
-        wrongGate();
+        noSuchGate("Promise 6", "gate", (t, gate) -> t.gate(gate, 0));
+        noSuchGate("Promise 14", "curve", (t, gate) -> t.curve(gate, 1));
         wrongWhatOfGate();
-        wrongFlow();
+        noSuchFlow("Promise 7", "flow", (t, flow) -> t.flow(flow, 0));
+        noSuchFlow("Promise 8", "route", (t, flow) -> t.route(flow, 0));
+        noSuchFlow("Promise 16", "billAfter", (t, flow) -> t.billAfter(flow, 0));
+        noSuchFlow("Promise 20", "grant", (t, flow) -> t.grant(flow, 1, 1));
+        noSuchFlow("Promise 21", "send", (t, flow) -> t.send(flow, 1));
+        noSuchFlow("Promise 22", "setThrift", (t, flow) -> t.setThrift(flow, 1));
         wrongWhatOfFlow();
-        wrongPlace();
-        wrongGateOrFlow();
-        wrongPacket();
+        noSuchPlace();
+        noSuchGateOrFlow("Promise 9", "tokens", PacketToll::tokens);
+        noSuchGateOrFlow("Promise 10", "queue", PacketToll::queue);
+        noSuchGateOrFlow("Promise 13", "loadOver", (t, gate, flow) -> t.loadOver(gate, flow, 1));
+        noSuchPacket("Promise 11", "packet", (t, packet) -> t.packet(packet, 0));
+        noSuchPacket("Promise 15", "endsAt", PacketToll::endsAt);
+        noSuchPacket("Promise 17", "help", PacketToll::help);
         wrongWhatOfPacket();
-        wrongCoupon();
+        noSuchCoupon();
+        noSuchCouponOrFlow();
         wrongWhatOfCoupon();
         wrongTicksOfLoadOver();
         wrongTicksOfCurve();
         wrongTicksOfBillAfter();
         wrongTicksOfPass();
         timeBeyondTheLast();
-        wrongValueOrTicksOfGrant();
+        wrongValueOfGrant();
+        wrongTicksOfGrant();
         couponsAreFull();
         wrongSizeOfSend();
         packetsAreFull();
         wrongThrift();
+        indexOfNothing();
         firstListedCounts();
+        thrownCallChangesNothing();
         Checks.end("ThrowBoundariesTest");
     }
 
@@ -87,12 +109,19 @@ public final class ThrowBoundariesTest {
         }
     }
 
-    private static void wrongGate() {
-        says("Promise 6", "Throws `IndexOutOfBoundsException` if there is no such gate");
+    private static void noSuchGate(String where, String name, OneIndex method) {
+        says(where, "Throws `IndexOutOfBoundsException` if there is no such gate");
         for (int gate : new int[] {MIN, -1, 2, 5, MAX}) {
-            dueThrow("gate(" + gate + ", 0)", INDEX, t -> t.gate(gate, 0));
-            dueThrow("curve(" + gate + ", 1)", INDEX, t -> t.curve(gate, 1));
+            dueThrow(name + " of gate " + gate, INDEX, t -> method.call(t, gate));
         }
+        dueSixAreThere(name, t -> method.call(t, 5), t -> method.call(t, 6));
+    }
+
+    /** With 6 gates and 6 flows the last index is right, and the one behind it is not. */
+    private static void dueSixAreThere(String name, ToLongFunction<PacketToll> last, ToLongFunction<PacketToll> beyond) {
+        PacketToll toll = Checks.tollWith(Worlds.SIX_GATES + "flow 0;".repeat(6));
+        last.applyAsLong(toll);
+        Checks.dueThrow(name + " of the 7th", INDEX, () -> beyond.applyAsLong(toll));
     }
 
     private static void wrongWhatOfGate() {
@@ -102,16 +131,12 @@ public final class ThrowBoundariesTest {
         }
     }
 
-    private static void wrongFlow() {
-        says("Promise 7", "Throws `IndexOutOfBoundsException` if there is no such flow");
+    private static void noSuchFlow(String where, String name, OneIndex method) {
+        says(where, "Throws `IndexOutOfBoundsException` if there is no such flow");
         for (int flow : new int[] {MIN, -1, 3, 5, MAX}) {
-            dueThrow("flow(" + flow + ", 0)", INDEX, t -> t.flow(flow, 0));
-            dueThrow("route(" + flow + ", 0)", INDEX, t -> t.route(flow, 0));
-            dueThrow("billAfter(" + flow + ", 0)", INDEX, t -> t.billAfter(flow, 0));
-            dueThrow("grant(" + flow + ", 1, 1)", INDEX, t -> t.grant(flow, 1, 1));
-            dueThrow("send(" + flow + ", 1)", INDEX, t -> t.send(flow, 1));
-            dueThrow("setThrift(" + flow + ", 1)", INDEX, t -> t.setThrift(flow, 1));
+            dueThrow(name + " of flow " + flow, INDEX, t -> method.call(t, flow));
         }
+        dueSixAreThere(name, t -> method.call(t, 5), t -> method.call(t, 6));
     }
 
     private static void wrongWhatOfFlow() {
@@ -121,7 +146,7 @@ public final class ThrowBoundariesTest {
         }
     }
 
-    private static void wrongPlace() {
+    private static void noSuchPlace() {
         says("Promise 8", "Throws `NoSuchElementException` if there is no such place");
         for (int place : new int[] {MIN, -1, 2, 3, 4, MAX}) {
             dueThrow("route(0, " + place + ")", ELEMENT, t -> t.route(0, place));
@@ -133,29 +158,28 @@ public final class ThrowBoundariesTest {
         Checks.dueThrow("route(1, -1)", ELEMENT, () -> four.route(1, -1));
     }
 
-    private static void wrongGateOrFlow() {
-        says("Promise 9", "Throws `IndexOutOfBoundsException` if there is no such gate or flow");
+    private static void noSuchGateOrFlow(String where, String name, TwoIndexes method) {
+        says(where, "Throws `IndexOutOfBoundsException` if there is no such gate or flow");
         int[][] pairs = {{-1, 0}, {2, 0}, {MIN, 0}, {MAX, 0}, {0, -1}, {0, 3}, {1, MIN}, {1, MAX}, {2, 3}, {-1, 6}, {1, -6}};
         for (int[] pair : pairs) {
-            String two = pair[0] + ", " + pair[1];
-            dueThrow("tokens(" + two + ")", INDEX, t -> t.tokens(pair[0], pair[1]));
-            dueThrow("queue(" + two + ")", INDEX, t -> t.queue(pair[0], pair[1]));
-            dueThrow("loadOver(" + two + ", 1)", INDEX, t -> t.loadOver(pair[0], pair[1], 1));
+            dueThrow(name + " of " + pair[0] + ", " + pair[1], INDEX, t -> method.call(t, pair[0], pair[1]));
         }
+        dueSixAreThere(name, t -> method.call(t, 5, 5), t -> method.call(t, 5, 6));
+        dueSixAreThere(name, t -> method.call(t, 5, 5), t -> method.call(t, 6, 5));
     }
 
-    private static void wrongPacket() {
-        says("Promise 11", "Throws `IndexOutOfBoundsException` if there is no such packet");
+    private static void noSuchPacket(String where, String name, OneIndex method) {
+        says(where, "Throws `IndexOutOfBoundsException` if there is no such packet");
         for (int packet : new int[] {MIN, -1, 5, 39, MAX}) {
-            dueThrow("packet(" + packet + ", 0)", INDEX, t -> t.packet(packet, 0));
-            dueThrow("endsAt(" + packet + ")", INDEX, t -> t.endsAt(packet));
-            dueThrow("help(" + packet + ")", INDEX, t -> t.help(packet));
+            dueThrow(name + " of packet " + packet, INDEX, t -> method.call(t, packet));
         }
-        PacketToll full = Checks.tollWith("toll;gate0 1 1;flow0;" + "packet0 0 1;".repeat(40) + "coupon0 1 1;".repeat(4));
-        for (int i = 4; i < 30; i++) {
+        PacketToll full = Checks.tollWith("toll;gate0 1 1;flow0;" + "packet0 0 1;".repeat(40));
+        method.call(full, 39);
+        Checks.dueThrow(name + " of the 41st", INDEX, () -> method.call(full, 40));
+        for (int i = 0; i < 30; i++) {
             full.grant(0, 1, 1);
         }
-        Checks.dueThrow("help(40) with 30 coupons", INDEX, () -> full.help(40));
+        Checks.dueThrow(name + " of the 41st with 30 coupons", INDEX, () -> method.call(full, 40));
     }
 
     private static void wrongWhatOfPacket() {
@@ -165,18 +189,29 @@ public final class ThrowBoundariesTest {
         }
     }
 
-    private static void wrongCoupon() {
-        says("Promise 19", "Throws `IndexOutOfBoundsException` if there is no such coupon or flow");
-        for (int index : new int[] {MIN, -1, 29, MAX}) {
-            dueThrow("coupon(" + index + ", 0)", INDEX, t -> t.coupon(index, 0));
-            dueThrow("forward(" + index + ", 0)", INDEX, t -> t.forward(index, 0));
-            dueThrow("forward(0, " + index + ")", INDEX, t -> t.forward(0, index));
-            dueThrow("forward(" + index + ", " + index + ")", INDEX, t -> t.forward(index, index));
-        }
+    private static void noSuchCoupon() {
+        says("Promise 12", "Throws `IndexOutOfBoundsException` if there is no such coupon");
         int coupons = used().state(4);
-        dueThrow("coupon behind the last one", INDEX, t -> t.coupon(coupons, 0));
+        for (int coupon : new int[] {MIN, -1, coupons, 29, MAX}) {
+            dueThrow("coupon(" + coupon + ", 0)", INDEX, t -> t.coupon(coupon, 0));
+        }
+        dueThrow(ThrowBoundariesTest::fullOfCoupons, "coupon(30, 0)", INDEX, t -> t.coupon(30, 0));
+        fullOfCoupons().coupon(29, 0);
+    }
+
+    private static void noSuchCouponOrFlow() {
+        says("Promise 19", "Throws `IndexOutOfBoundsException` if there is no such coupon or flow");
+        int coupons = used().state(4);
+        for (int wrong : new int[] {MIN, -1, 29, MAX}) {
+            dueThrow("forward(" + wrong + ", 0)", INDEX, t -> t.forward(wrong, 0));
+            dueThrow("forward(0, " + wrong + ")", INDEX, t -> t.forward(0, wrong));
+            dueThrow("forward(" + wrong + ", " + wrong + ")", INDEX, t -> t.forward(wrong, wrong));
+        }
         dueThrow("forward of a coupon behind the last one", INDEX, t -> t.forward(coupons, 0));
         dueThrow("forward to a flow behind the last one", INDEX, t -> t.forward(0, 3));
+        dueThrow(ThrowBoundariesTest::fullOfCoupons, "forward(30, 0)", INDEX, t -> t.forward(30, 0));
+        fullOfCoupons().forward(29, 0);
+        dueSixAreThere("forward", t -> t.forward(t.grant(0, 9, 9), 5), t -> t.forward(0, 6));
     }
 
     private static void wrongWhatOfCoupon() {
@@ -240,11 +275,19 @@ public final class ThrowBoundariesTest {
         Checks.due("1 from 9998 on", one.state(0), 9999);
     }
 
-    private static void wrongValueOrTicksOfGrant() {
+    private static void wrongValueOfGrant() {
         says("Promise 20", "Throws `IllegalArgumentException` if value or ticks is out of range");
         for (int wrong : new int[] {MIN, -1, 0, 10000, MAX}) {
             dueThrow("grant(0, " + wrong + ", 1)", ARGUMENT, t -> t.grant(0, wrong, 1));
+            dueThrow("grant(0, " + wrong + ", 9999)", ARGUMENT, t -> t.grant(0, wrong, 9999));
+        }
+    }
+
+    private static void wrongTicksOfGrant() {
+        says("Promise 20", "Throws `IllegalArgumentException` if value or ticks is out of range");
+        for (int wrong : new int[] {MIN, -1, 0, 10000, MAX}) {
             dueThrow("grant(0, 1, " + wrong + ")", ARGUMENT, t -> t.grant(0, 1, wrong));
+            dueThrow("grant(0, 9999, " + wrong + ")", ARGUMENT, t -> t.grant(0, 9999, wrong));
             dueThrow("grant(0, " + wrong + ", " + wrong + ")", ARGUMENT, t -> t.grant(0, wrong, wrong));
         }
     }
@@ -299,6 +342,24 @@ public final class ThrowBoundariesTest {
         }
     }
 
+    private static void indexOfNothing() {
+        says("Changes", "In the methods, IndexOutOfBoundsException is thrown if a parameter named gate, flow, packet or coupon is "
+                + "not the index of such a thing.");
+        PacketToll gates = Checks.tollWith("toll;gate 1 1 1;");
+        Checks.dueThrow("tokens(0, 0) without flows", INDEX, () -> gates.tokens(0, 0));
+        Checks.dueThrow("loadOver(0, 0, 1) without flows", INDEX, () -> gates.loadOver(0, 0, 1));
+        Checks.dueThrow("grant(0, 1, 1) without flows", INDEX, () -> gates.grant(0, 1, 1));
+        PacketToll flows = Checks.tollWith(Worlds.ONE_FLOW);
+        Checks.dueThrow("packet(0, 0) without packets", INDEX, () -> flows.packet(0, 0));
+        Checks.dueThrow("help(0) without packets", INDEX, () -> flows.help(0));
+        Checks.dueThrow("forward(0, 0) without coupons", INDEX, () -> flows.forward(0, 0));
+        PacketToll gone = Checks.tollAt(2, Worlds.ONE_FLOW + "coupon 0 1 1;");
+        Checks.dueThrow("coupon(0, 0) of one that has expired", INDEX, () -> gone.coupon(0, 0));
+        gone.send(0, 1);
+        gone.undo();
+        Checks.dueThrow("packet(0, 0) of one that was undone", INDEX, () -> gone.packet(0, 0));
+    }
+
     private static void firstListedCounts() {
         says("Changes", "If several exceptions apply to a call, the one that is listed first with the method is thrown.");
         dueThrow("gate(2, 3)", INDEX, t -> t.gate(2, 3));
@@ -321,5 +382,20 @@ public final class ThrowBoundariesTest {
         dueThrow(ThrowBoundariesTest::fullOfPackets, "send(3, 1) with 40", INDEX, t -> t.send(3, 1));
         dueThrow(ThrowBoundariesTest::fullOfPackets, "send(-1, 1000) with 40", INDEX, t -> t.send(-1, 1000));
         dueThrow(ThrowBoundariesTest::fullOfPackets, "send(0, 1000) with 40", ARGUMENT, t -> t.send(0, 1000));
+    }
+
+    private static void thrownCallChangesNothing() {
+        says("Changes", "A method that throws an exception changes nothing.");
+        PacketToll tried = used();
+        for (int i = 0; i < 9; i++) {
+            // were they changes, the earlier ones would be final by now
+            Checks.dueThrow("pass(0)", ARGUMENT, () -> tried.pass(0));
+            Checks.dueThrow("forward(0, 9)", INDEX, () -> tried.forward(0, 9));
+            Checks.dueThrow("grant(0, 0, 1)", ARGUMENT, () -> tried.grant(0, 0, 1));
+            Checks.dueThrow("send(0, 0)", ARGUMENT, () -> tried.send(0, 0));
+            Checks.dueThrow("setThrift(0, -1)", ARGUMENT, () -> tried.setThrift(0, -1));
+            Checks.dueThrow("load(-1)", ARGUMENT, () -> tried.load(-1));
+        }
+        Answers.dueSameFromHere("behind 54 such calls", tried, used());
     }
 }

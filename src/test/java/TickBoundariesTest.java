@@ -14,6 +14,7 @@ public final class TickBoundariesTest {
         bucketsAreFullAtFirst();
         queueHoldsItsRoom();
         statesOfAPacket();
+        couponsFromOneToTheMost();
         couponsBehindARemovedOne();
         spendFirstToEnd();
         spendUntilNothingIsLeft();
@@ -38,6 +39,8 @@ public final class TickBoundariesTest {
         takesAllTokens();
         deliveredBehindTheLastGate();
         timeBecomesGreaterByOne();
+        billByThePrice();
+        numberOutsideBecomesTheNearerBound();
         priceIsLimited();
         priceSeesTheQueue();
         divisionTruncates();
@@ -192,6 +195,19 @@ public final class TickBoundariesTest {
         Checks.duePacket(toll, 0, 0, 1, 9, 3, -1, 0, 2);
         Checks.duePacket(toll, 1, 0, 2, 9, 1, 1, 0, -1);
         Checks.duePacket(toll, 2, 0, 2, 9, 4, -1, 0, 2);
+    }
+
+    private static void couponsFromOneToTheMost() {
+        says("Coupons", "A coupon has a flow to which it belongs, a value (1 to 9999), an end (the time at which it expires)");
+        PacketToll toll = Checks.tollWith("toll;gate 0 1 1;flow 0;flow 0;coupon 0 1 1;coupon 1 9999 9999;");
+        Checks.dueCoupon(toll, 0, 0, 1, 1, 0);
+        Checks.dueCoupon(toll, 1, 1, 9999, 9999, 0);
+        toll.pass(1);
+        due("at its end no tick with that time has passed", toll.state(4), 2);
+        toll.pass(1);
+        due("it expired at 1", toll.state(4), 1);
+        Checks.passTo(toll, 9999);
+        due("no tick with the time 9999 passes", toll.state(4), 1);
     }
 
     private static void couponsBehindARemovedOne() {
@@ -585,6 +601,31 @@ public final class TickBoundariesTest {
             toll.pass(1);
             due("time", toll.state(0), time);
         }
+    }
+
+    private static void billByThePrice() {
+        says("A tick", "The bill of the flow becomes greater by the price.");
+        for (int price : new int[] {0, 1, 9999}) {
+            PacketToll toll = Checks.tollWith("toll;gate 9 9 9;gate 9 9 9;flow 0 1;flow 1;packet 0 0 4;packet 0 1 5;price "
+                    + price + ";");
+            int[] passages = {0, 1, 3, 4};
+            for (int time = 0; time < 4; time++) {
+                due("passages by " + time + " at " + price, toll.flow(0, 2), passages[time] * price);
+                due("the other flow", toll.flow(1, 2), 0);
+                toll.pass(1);
+            }
+        }
+    }
+
+    private static void numberOutsideBecomesTheNearerBound() {
+        says("Conventions", "A number that is limited to a range becomes the nearer bound if it is outside of it.");
+        Worlds.duePrice("0-1", 0);
+        Worlds.duePrice("0-9999*9999", 0);
+        Worlds.duePrice("9999+1", 9999);
+        Worlds.duePrice("9999*9999", 9999);
+        Worlds.duePrice("9999*9999-9999*100", 100);
+        Worlds.duePrice("0-9999*9999-9999*9999+9999*100+200", 100);
+        Worlds.duePrice("(0-9999*9999)+9999*100+150", 50);
     }
 
     private static void priceIsLimited() {
